@@ -957,8 +957,8 @@ public final class ReorderMind {
         }
 
         /**
-         * PART of each STOCK, if there is one CLOSED set alone: as the determinants of what one does not come back
-         * by, without the row and the column of that STOCK.
+         * PART of each STOCK, if there is one CLOSED set alone: these are to each other as the determinants of SUM less
+         * moves, each without the row and the column of that STOCK (the Markov chain tree theorem).
          */
         boolean findParts(State s) {
             findReach(s);
@@ -969,7 +969,6 @@ public final class ReorderMind {
                 System.arraycopy(matrix, 0, changed, 0, CELLS);
                 for (int i = 0; i < STOCKS; i++) {
                     changed[stock * STOCKS + i] = i == stock ? 1 : 0;
-                    changed[i * STOCKS + stock] = i == stock ? 1 : 0;
                 }
                 partAbove[stock] = determinant(changed);
                 partBelow += partAbove[stock];

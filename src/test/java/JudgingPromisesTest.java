@@ -70,6 +70,7 @@ public final class JudgingPromisesTest {
         due("40: undo() of none", x.undo(), STATE);
         x.store(2, 2);
         Told.read(x, "w0321;c1234;g7;r210");
+        x.keep(0);
         x.keep(3);
         x.order(0, 1);
         x.see(0, 2);
@@ -84,7 +85,7 @@ public final class JudgingPromisesTest {
         due("39: image()", x.image(), 4);
         unchanged("39: image()", x, was);
         x.day(5);
-        x.keep(0);
+        x.keep(1);
         x.order(1, 0);
         x.see(1, 0);
         x.plan(1, 1);

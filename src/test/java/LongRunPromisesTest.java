@@ -63,6 +63,7 @@ public final class LongRunPromisesTest {
         fraction("21: share(-1, 0)", x.share(-1, 0, 0), x.share(-1, 0, 1), 1, 1);
         fraction("21: share(-1, 1)", x.share(-1, 1, 0), x.share(-1, 1, 1), 0, 1);
         fraction("22: daily(-1) there", x.daily(-1, 0), x.daily(-1, 1), 12, 1);
+        fraction("22: daily(0)", x.daily(0, 0), x.daily(0, 1), 15, 2);
         fraction("21: share(0, 1)", x.share(0, 1, 0), x.share(0, 1, 1), 1, 2);
         due("21: share(1, 0)", x.share(1, 0, 0), NO);
         due("21: share(5, 0)", x.share(5, 0, 0), NO);
@@ -145,6 +146,10 @@ public final class LongRunPromisesTest {
         Told.read(z, "w1011;c2819;g9");
         z.tell(3, 10);
         due("26: looks() far ahead", z.looks(), 5);
+        z.store(2, 3);
+        Told.read(z, "w2200;c6600;g9");
+        z.tell(3, 20);
+        due("26: looks() as far as it goes", z.looks(), 6);
         z.store(1, 2);
         Told.read(z, "w2010;c1600;g8");
         z.tell(3, 10);

@@ -31,7 +31,7 @@ public final class StorePromisesTest {
     private static void store() {
         ReorderMind x = Told.rule(new ReorderMind(), "3100");
         x.tell(5, 2);
-        x.keep(1);
+        for (int i = 0; i <= 3; i++) x.keep(i);
         x.see(0, 3);
         x.plan(0, 1);
         x.day(3);
@@ -55,7 +55,7 @@ public final class StorePromisesTest {
         due("2: STOCK", x.told(2), 0);
         for (int s = 0; s <= 2; s++) due("2: ruled(-1, " + s + ")", x.ruled(-1, s), 0);
         due("2: ruled(-1, 3)", x.ruled(-1, 3), NONE);
-        due("2: ruled(1, 0)", x.ruled(1, 0), STATE);
+        for (int i = 0; i <= 3; i++) due("2: ruled(" + i + ", 0)", x.ruled(i, 0), STATE);
         due("2: SEEN", x.count(1), 0);
         due("2: PLAN", x.count(2), 0);
         due("2: KEPT", x.count(3), 0);

@@ -247,6 +247,15 @@ public final class TrulyPromisesTest {
         unchanged("37: ends", x, was);
         due("37: THE RULE stays", x.ruled(-1, 0), 1);
         x.plan(-1, 0);
+        // No KEPT RULE 0: THE RULE goes on, 2 + 1 with DEMAND 1; then it is KEPT, and goes on as KEPT.
+        x.plan(2, 0);
+        x.plan(0, 1);
+        due("37: ends(1) without that KEPT RULE", x.ends(1), 3);
+        Told.rule(x, "200");
+        x.keep(0);
+        Told.rule(x, "100");
+        due("37: ends(1) with it", x.ends(1), 5);
+        x.plan(-1, 0);
         x.tell(5, 2);
         due("37: from STOCK as it is", x.ends(0), 2);
     }

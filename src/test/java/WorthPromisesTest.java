@@ -66,6 +66,7 @@ public final class WorthPromisesTest {
     }
 
     private static void worthAndAct() {
+        fraction("15: act(-1, 0, 1) as the first call", Told.small().act(-1, 0, 1, 0), Told.small().act(-1, 0, 1, 1), 20, 3);
         ReorderMind x = Told.small();
         // W0 = 9/2 + W0/2; W1 = 1/2 + W1/4 + W0/4.
         fraction("14: worth(-1, 0)", x.worth(-1, 0, 0), x.worth(-1, 0, 1), 9, 1);
