@@ -114,6 +114,7 @@ public final class TrulyPromisesTest {
         x.pay(-1);
         due("32: total(least, 0) of -1", x.total(least, 0), HUGE);
         due("32: total(least, least) of -1", x.total(least, least), HUGE);
+        due("32: total(least, most) of -1, the first no long", x.total(least, most), HUGE);
         due("32: total(most, most) of -1", x.total(most, most), 1);
         due("32: total(most, least) of -1, below a long", x.total(most, least), HUGE);
         x.times(-1);
