@@ -317,8 +317,10 @@ public final class ReorderMind {
     }
 
     public int record(int i, int what) {
-        if (!isWithin(what, 0, 2) || !isWithin(i, -1, now.latest.size - 1)) return NONE;
-        return i == -1 ? now.latest.size : now.latest.at(i, what);
+        // How many there are is asked of no DAY, so that what doesn't matter.
+        if (i == -1) return now.latest.size;
+        if (!isWithin(i, 0, now.latest.size - 1) || !isWithin(what, 0, 2)) return NONE;
+        return now.latest.at(i, what);
     }
 
     public long likely(int part) {

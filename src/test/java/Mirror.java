@@ -522,8 +522,8 @@ final class Mirror {
     }
 
     int record(int i, int what) {
-        if (!in(i, -1, now.record.size() - 1) || !in(what, 0, 2)) return NONE;
-        return i == -1 ? now.record.size() : now.record.get(i)[what];
+        if (i == -1) return now.record.size();
+        return in(i, 0, now.record.size() - 1) && in(what, 0, 2) ? now.record.get(i)[what] : NONE;
     }
 
     long likely(int part) {

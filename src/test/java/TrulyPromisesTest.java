@@ -137,7 +137,8 @@ public final class TrulyPromisesTest {
     private static void record() {
         ReorderMind x = Told.rule(new ReorderMind(), "3100");
         due("33: record(0, 0) of none", x.record(0, 0), NONE);
-        due("33: record(-1, 0) of none", x.record(-1, 0), 0);
+        int[] anyWhat = {0, 2, -1, 3, Integer.MIN_VALUE, Integer.MAX_VALUE};
+        for (int what : anyWhat) due("33: record(-1, " + what + ") of none", x.record(-1, what), 0);
         due("34: likely(0) of none", x.likely(0), 1);
         due("34: likely(1) of none", x.likely(1), 1);
         x.day(3);
@@ -146,12 +147,11 @@ public final class TrulyPromisesTest {
                 due("33: record(" + i + ", " + what + ")", x.record(i, what), TEN[i][what]);
             }
         }
-        due("33: record(-1, 2)", x.record(-1, 2), 3);
+        for (int what : anyWhat) due("33: record(-1, " + what + ")", x.record(-1, what), 3);
         due("33: record(3, 0)", x.record(3, 0), NONE);
-        due("33: record(-2, 0)", x.record(-2, 0), NONE);
+        for (int what : anyWhat) due("33: record(-2, " + what + ")", x.record(-2, what), NONE);
         due("33: record(0, 3)", x.record(0, 3), NONE);
         due("33: record(0, -1)", x.record(0, -1), NONE);
-        due("33: record(-1, 3), no such number", x.record(-1, 3), NONE);
         // DEMANDS 3, 0, 2.
         due("34: likely(0)", x.likely(0), 1);
         due("34: likely(1)", x.likely(1), 64);
