@@ -18,6 +18,9 @@ public final class EdgesTest {
     private static final Path EDGES = Path.of("src/test/edges");
     private static final String FIRST = "the first that a call's words name";
     private static final String NOTHING_CHANGES = "What is answered so changes nothing";
+    private static final String BY_RULE = "Where a call names a RULE";
+    private static final String OF_LONGS = "Of longs part 0 is above";
+    private static final String ASKED = "All that follows is asked, and changes nothing";
     private static final String[] REFUSALS = {"NONE", "BAD", "STATE", "FULL", "HUGE", "NOTHING", "CAST", "PLACE", "SIZE",
         "NO", "-5"};
 
@@ -25,7 +28,10 @@ public final class EdgesTest {
     private static final Set<Integer> REFUSALS_APART = Set.of(8, 9, 10, 18, 26, 28, 30, 31, 32, 33, 37, 40, 41, 42);
     /** Of fractions there is NO alone, so that none comes first. */
     private static final Set<Integer> FRACTIONS = Set.of(12, 13, 14, 15, 19, 21, 22, 24, 34, 45);
-    private static final Set<Integer> NEVER_REFUSED = Set.of(1, 17, 26, 39);
+    /** read() has a FAULT instead, which leaves THE TEXT empty. */
+    private static final Set<Integer> NEVER_REFUSED = Set.of(1, 7, 17, 26, 39);
+    /** Of what stands in part 2 these two are no questions. */
+    private static final Set<Integer> CHANGING = Set.of(17, 27);
 
     private final Checks checks = new Checks("EdgesTest");
     private final Document document;
@@ -78,29 +84,37 @@ public final class EdgesTest {
         answered.computeIfAbsent(promise, p -> new TreeSet<>()).addAll(sentence.run(checks));
     }
 
-    /** Whether each promise has what the document says of it. */
+    /** Whether each promise has what the document says of it, and each bracket of the Terms has a test. */
     private void complete() {
         for (int promise = 1; promise <= Document.PROMISES; promise++) {
-            Set<String> words = tested.getOrDefault(promise, Set.of());
-            checks.that(!words.isEmpty(), promise + ": no sentence is tested");
-            for (String refusal : REFUSALS) {
-                if (!isNamed(promise, refusal)) continue;
-                checks.that(answered.getOrDefault(promise, Set.of()).contains(refusal), promise + ": no call answers " + refusal);
-                checks.that(words.stream().anyMatch(w -> w.matches(".*(^|\\W)" + refusal + "(\\W.*|$)")),
-                        promise + ": no test of the words with " + refusal);
-            }
+            has(promise, "");
+            refusals(promise);
             boolean canMeet = !REFUSALS_APART.contains(promise) && !FRACTIONS.contains(promise);
-            if (canMeet && !NEVER_REFUSED.contains(promise) && promise != 7) {
-                checks.that(words.contains(FIRST), promise + ": no test of " + FIRST);
-            }
-            if (!NEVER_REFUSED.contains(promise) && promise != 7) {
-                checks.that(words.contains(NOTHING_CHANGES), promise + ": no test of " + NOTHING_CHANGES);
-            }
+            if (canMeet && !NEVER_REFUSED.contains(promise)) has(promise, FIRST);
+            if (!NEVER_REFUSED.contains(promise)) has(promise, NOTHING_CHANGES);
+            if (promise >= 12 && promise <= 28 && !CHANGING.contains(promise)) has(promise, ASKED);
+            if (document.promise(promise).contains("(int rule,")) has(promise, BY_RULE);
+            if (FRACTIONS.contains(promise) && promise != 45) has(promise, OF_LONGS);
         }
-        Set<String> all = new TreeSet<>();
-        tested.values().forEach(all::addAll);
         for (String bracket : document.brackets()) {
-            checks.that(all.stream().anyMatch(w -> w.contains(bracket)), "no test of the Terms' " + bracket);
+            boolean is = tested.values().stream().anyMatch(all -> all.stream().anyMatch(w -> w.contains(bracket)));
+            checks.that(is, "no test of the Terms' " + bracket);
+        }
+    }
+
+    private void has(int promise, String words) {
+        boolean is = tested.getOrDefault(promise, Set.of()).stream().anyMatch(w -> w.contains(words));
+        checks.that(is, promise + ": no test of '" + words + "'");
+    }
+
+    private void refusals(int promise) {
+        for (String refusal : REFUSALS) {
+            if (!isNamed(promise, refusal)) continue;
+            boolean is = answered.getOrDefault(promise, Set.of()).contains(refusal);
+            checks.that(is, promise + ": no call answers " + refusal);
+            is = tested.getOrDefault(promise, Set.of()).stream()
+                    .anyMatch(w -> w.matches(".*(^|\\W)" + refusal + "(\\W.*|$)"));
+            checks.that(is, promise + ": no test of the words with " + refusal);
         }
     }
 
