@@ -468,13 +468,13 @@ public final class ReorderMind {
     }
 
     private static boolean isInt(long v) {
-        return v >= Integer.MIN_VALUE && v <= Integer.MAX_VALUE;
+        return v == (int) v;
     }
 
     private static boolean isProductLong(long n, int k) {
         if (k == 0) return true;
-        // The one product that wraps to itself, so that dividing back would not tell.
-        if (k == -1) return n != Long.MIN_VALUE;
+        // The least long has no other sign: that product wraps to itself, so that dividing back would not tell.
+        if (k == -1) return n == 0 || n != -n;
         return n * k / k == n;
     }
 

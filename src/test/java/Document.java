@@ -29,8 +29,13 @@ final class Document {
     }
 
     static Document found() throws IOException {
+        return new Document(text());
+    }
+
+    /** As it stands, from its first sign to its last one. */
+    static String text() throws IOException {
         String shared = System.getenv("SHARED");
-        return new Document(Files.readString(Path.of(shared == null ? "../shared" : shared, "DOC.md")));
+        return Files.readString(Path.of(shared == null ? "../shared" : shared, "DOC.md"));
     }
 
     private static String spaced(String text) {

@@ -33,24 +33,32 @@ public final class EdgesTest {
     /** Of what stands in part 2 these two are no questions. */
     private static final Set<Integer> CHANGING = Set.of(17, 27);
 
-    private final Checks checks = new Checks("EdgesTest");
+    private final Checks checks;
     private final Document document;
     private final Map<String, List<Step>> runs = new TreeMap<>();
     private final Map<Integer, Set<String>> tested = new TreeMap<>();
     private final Map<Integer, Set<String>> answered = new TreeMap<>();
     private int sentences;
 
-    private EdgesTest(Document document) {
+    private EdgesTest(Document document, Checks checks) {
         this.document = document;
+        this.checks = checks;
     }
 
-    private void file(Path path) throws IOException {
+    /** Cases told elsewhere: how many there were. */
+    static int tried(List<String> lines, String where, Document document, Checks checks) {
+        EdgesTest test = new EdgesTest(document, checks);
+        test.lines(lines, where);
+        return test.sentences;
+    }
+
+    private void lines(List<String> lines, String of) {
         List<Step> steps = null;
         Sentence sentence = null;
         int number = 0;
-        for (String line : Files.readAllLines(path)) {
+        for (String line : lines) {
             number++;
-            String where = path.getFileName() + ":" + number;
+            String where = of + ":" + number;
             if (line.isBlank() || line.startsWith("#")) continue;
             if (line.startsWith("::") || line.startsWith("==")) {
                 if (sentence != null) test(sentence);
@@ -125,12 +133,12 @@ public final class EdgesTest {
     }
 
     public static void main(String[] args) throws IOException {
-        EdgesTest test = new EdgesTest(Document.found());
+        EdgesTest test = new EdgesTest(Document.found(), new Checks("EdgesTest"));
         try (DirectoryStream<Path> files = Files.newDirectoryStream(EDGES, "*.txt")) {
             List<Path> all = new ArrayList<>();
             files.forEach(all::add);
             all.sort(null);
-            for (Path one : all) test.file(one);
+            for (Path one : all) test.lines(Files.readAllLines(one), one.getFileName().toString());
         }
         test.complete();
         System.out.println("  " + test.sentences + " sentences");

@@ -1,97 +1,78 @@
+import com.sun.source.tree.CompilationUnitTree;
+import com.sun.source.util.JavacTask;
+import com.sun.source.util.Trees;
 import java.io.IOException;
-import java.lang.reflect.Field;
-import java.lang.reflect.Method;
-import java.lang.reflect.Modifier;
 import java.nio.charset.StandardCharsets;
 import java.nio.file.Files;
 import java.nio.file.Path;
-import java.util.ArrayList;
 import java.util.List;
-import java.util.Set;
-import java.util.TreeSet;
-import java.util.regex.Matcher;
-import java.util.regex.Pattern;
+import javax.tools.JavaCompiler;
+import javax.tools.StandardJavaFileManager;
+import javax.tools.ToolProvider;
 
-/** What of ../shared/LANGUAGE.md can be seen in the source of ReorderMind, and in its classes. */
+/** ReorderMind against ../shared/LANGUAGE.md, as the compiler reads it; each fault begins with its rule's number. */
 public final class LanguageTest {
-    private static final int MOST_CLASSES = 12, MOST_FIELDS = 20, MOST_PARAMETERS = 7, MOST_LINES = 60;
+    private static final Path SOURCE = Path.of("src/main/java/ReorderMind.java");
+    private static final String HOLDS = "final class T { private static final class One { int v; } ";
 
-    /** Words and signs outside the language, as regular expressions. */
-    private static final String[] OUTSIDE = {"\\bthrows?\\b", "\\btry\\b", "\\bcatch\\b", "\\bfinally\\b", "\\bsynchronized\\b",
-        "\\bassert\\b", "->", "::", "\\bimport\\b", "\\bpackage\\b", "\\bprotected\\b", "\\bnative\\b", "\\bvolatile\\b",
-        "Exact\\b", "\\bequals\\b", "\\bhashCode\\b", "\\btoString\\b", "\\bObject\\b", "\\bThread\\b", "\\bRandom\\b", "@",
-        "\\bSystem\\.(?!arraycopy\\b)", "\\bMath\\.(?!(abs|min|max)\\b)", "\\bstatic\\s*\\{", "\\bvar\\b", "\\bgoto\\b",
-        "\\bstatic (?!final\\b)[\\w\\[\\]]+ \\w+( =|;)"};
+    /** What must not stand, and the rule's number: a test that finds nothing in these would find nothing at all. */
+    private static final String[][] OUTSIDE = {
+        {"1", "package a; final class T { }"}, {"1", "final class T { } class U { }"},
+        {"1", HOLDS + "int shown; }"}, {"1", HOLDS + "public int a() { return 0; } private int a(int b) { return b; } }"},
+        {"2", "final class T { class Inner { } }"}, {"2", HOLDS + "Runnable a = () -> { }; }"},
+        {"2", HOLDS + "void a() { class Local { } } }"}, {"2", HOLDS + "One a = new One() { }; }"},
+        {"3", HOLDS + "private Object a; }"}, {"3", HOLDS + "private One[][] a; }"}, {"3", HOLDS + "private int[][][] a; }"},
+        {"4", "import java.util.Map; final class T { }"}, {"4", HOLDS + "private long a() { return System.nanoTime(); } }"},
+        {"4", HOLDS + "private int a(int b) { return Math.addExact(b, b); } }"},
+        {"4", HOLDS + "private int a() { return Integer.MAX_VALUE; } }"},
+        {"5", HOLDS + "private static int a; }"}, {"5", HOLDS + "private static final One A = new One(); }"},
+        {"5", HOLDS + "static { } }"}, {"5", HOLDS + "private static final int[] A = new int[3]; }"},
+        {"6", HOLDS + "void a() { throw new RuntimeException(); } }"}, {"6", HOLDS + "void a() { try { a(); } finally { } } }"},
+        {"6", HOLDS + "void a() { assert true; } }"}, {"6", HOLDS + "void a() { synchronized (this) { } } }"},
+        {"6", HOLDS + "boolean a(String b) { return b == \"b\"; } }"}, {"6", HOLDS + "public String toString() { return \"\"; } }"},
+        {"8", HOLDS + "private int a(int b) { return b > 0 ? a(b - 1) : 0; } }"},
+        {"9", HOLDS + "void a() { while (true) { } } }"}, {"9", HOLDS + "void a() { for (int i = 0; i < 3; i++) i = 0; } }"},
+        {"9", HOLDS + "void a() { for (int i = 0; i < 3; i--) { } } }"}, {"9", HOLDS + "void a() { do { } while (1 > 0); } }"},
+        {"10", HOLDS + "String a(int b) { return \"b\" + b; } }"},
+        {"11", HOLDS + "void a(int b, int c, int d, int e, int f, int g, int h, int i) { } }"},
+        {"11", HOLDS + "void a() { b(); } void b() { c(); } void c() { d(); } void d() { e(); } void e() { f(); } "
+            + "void f() { g(); } void g() { h(); } void h() { i(); } void i() { } }"},
+        {"11", HOLDS + "void a() { " + "\n".repeat(60) + "} }"},
+        {"12", HOLDS + "One a() { return new One(); } }"},
+    };
 
-    private static Checks checks;
-
-    private static String withoutCommentsAndTexts(String source) {
-        return source.replaceAll("(?s)/\\*.*?\\*/", " ").replaceAll("//[^\n]*", " ")
-                .replaceAll("'(\\\\.|[^'\\\\])'", "' '").replaceAll("\"(\\\\.|[^\"\\\\])*\"", "\"\"");
+    private static void outside(Checks checks, String rule, String source) throws IOException {
+        Path file = Files.createTempDirectory("language").resolve("T.java");
+        Files.writeString(file, source);
+        LanguageRules rules = read(file);
+        boolean isSeen = rules.faults().stream().anyMatch(f -> f.startsWith(rule + ":"));
+        checks.that(isSeen, "it is not seen that this breaks rule " + rule + ": " + source);
+        Files.delete(file);
+        Files.delete(file.getParent());
     }
 
-    private static void words(String source) {
-        String bare = withoutCommentsAndTexts(source);
-        for (String outside : OUTSIDE) {
-            Matcher matcher = Pattern.compile(outside).matcher(bare);
-            checks.that(!matcher.find(), "the source has " + outside);
-        }
-        checks.that(source.chars().allMatch(c -> c >= 1 && c <= 127), "signs above 127");
-        checks.that(!Pattern.compile("\"\\s*\\+|\\+\\s*\"").matcher(bare).find(), "texts are joined by +");
-    }
-
-    private static void methodLengths(String source) {
-        String[] lines = source.split("\n", -1);
-        int begun = -1;
-        String indent = "";
-        for (int i = 0; i < lines.length; i++) {
-            Matcher head = Pattern.compile("^( {4}| {8})(?! )[\\w\\[\\] ]+\\(.*\\) \\{$").matcher(lines[i]);
-            if (head.matches() && begun < 0) {
-                begun = i;
-                indent = head.group(1);
-            } else if (begun >= 0 && lines[i].equals(indent + "}")) {
-                checks.that(i - begun < MOST_LINES, "a long method in line " + (begun + 1));
-                begun = -1;
-            }
-        }
-        checks.that(begun < 0, "a method that has no end");
-    }
-
-    private static List<Class<?>> classes() {
-        List<Class<?>> all = new ArrayList<>(List.of(ReorderMind.class));
-        all.addAll(List.of(ReorderMind.class.getDeclaredClasses()));
-        return all;
-    }
-
-    private static void shapes() {
-        Set<String> publicNames = new TreeSet<>();
-        for (Method m : ReorderMind.class.getDeclaredMethods()) {
-            if (Modifier.isPublic(m.getModifiers())) publicNames.add(m.getName());
-        }
-        checks.that(classes().size() <= MOST_CLASSES, "there are many classes");
-        for (Class<?> one : classes()) {
-            int fields = 0;
-            for (Field f : one.getDeclaredFields()) {
-                if (!Modifier.isStatic(f.getModifiers())) fields++;
-                else checks.that(Modifier.isFinal(f.getModifiers()), f + " is static, not final");
-            }
-            checks.that(fields <= MOST_FIELDS, one + " has many fields");
-            checks.that(one.getDeclaredClasses().length == 0 || one == ReorderMind.class, one + " has classes inside");
-            for (Method m : one.getDeclaredMethods()) {
-                checks.that(m.getParameterCount() <= MOST_PARAMETERS, m + " takes many numbers");
-                checks.that(!m.isSynthetic(), m + " is not in the source");
-                checks.that(one == ReorderMind.class || !publicNames.contains(m.getName()),
-                        m + " bears the name of a public one");
-            }
+    private static LanguageRules read(Path file) throws IOException {
+        JavaCompiler compiler = ToolProvider.getSystemJavaCompiler();
+        try (StandardJavaFileManager files = compiler.getStandardFileManager(null, null, null)) {
+            // What the compiler says of a source that breaks a rule is not told.
+            JavacTask task = (JavacTask) compiler.getTask(null, files, fault -> { }, List.of("-proc:none"), null,
+                    files.getJavaFileObjects(file));
+            CompilationUnitTree unit = task.parse().iterator().next();
+            task.analyze();
+            LanguageRules rules = new LanguageRules(Trees.instance(task), unit);
+            rules.all();
+            return rules;
         }
     }
 
     public static void main(String[] args) throws IOException {
-        checks = new Checks("LanguageTest");
-        String source = Files.readString(Path.of("src/main/java/ReorderMind.java"), StandardCharsets.UTF_8);
-        words(source);
-        methodLengths(source);
-        shapes();
+        Checks checks = new Checks("LanguageTest");
+        for (String[] one : OUTSIDE) outside(checks, one[0], one[1]);
+        LanguageRules rules = read(SOURCE);
+        for (String fault : rules.faults()) checks.that(false, "rule " + fault);
+        checks.that(rules.looked() > 1000, "the source is not read as a whole");
+        checks.that(Files.readString(SOURCE, StandardCharsets.UTF_8).chars().allMatch(c -> c >= 1 && c <= 127),
+                "rule 4: signs above 127");
         checks.end();
     }
 }
